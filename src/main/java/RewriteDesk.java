@@ -220,6 +220,7 @@ public final class RewriteDesk {
         runner.settle();
         for (int i = 0; i < n && runner.goesOn(); i++) {
             runner.step();
+            runner.settle();
         }
         return runner.goesOn() ? 0 : runner.state();
     }
@@ -950,9 +951,8 @@ public final class RewriteDesk {
             int made = dos;
             dos++;
             for (int part = 0; part < DO_PARTS; part++) {
-                setDoPart(made, part, NONE);
+                setCell(doParts, made * DO_PARTS + part, part == KIND ? kind : NONE);
             }
-            setDoPart(made, KIND, kind);
             return made;
         }
 
@@ -1261,7 +1261,23 @@ public final class RewriteDesk {
             for (int turn = 0; turn <= Tokens.MOST && kind() == Tokens.IF; turn++) {
                 buildTest();
             }
-            for (int turn = 0; turn <= Tokens.MOST && buildsDoes(); turn++) {
+            for (int turn = 0; turn <= Tokens.MOST && kind() != Tokens.END; turn++) {
+                int kind = kind();
+                at++;
+                switch (kind) {
+                    case Tokens.DEL:
+                        buildDel();
+                        break;
+                    case Tokens.NEW:
+                        buildNew();
+                        break;
+                    case Tokens.JOIN:
+                        buildJoin();
+                        break;
+                    default:
+                        buildSet();
+                        break;
+                }
                 at++;
             }
             at++;
@@ -1374,30 +1390,6 @@ public final class RewriteDesk {
             buildSum(0);
             setCell(rule.sumEnd, Rule.sumOfTest(test, 1), book.codeCount());
             at++;
-        }
-
-        /** One thing that the rule does; false if there is none. */
-        private boolean buildsDoes() {
-            switch (kind()) {
-                case Tokens.DEL:
-                    at++;
-                    buildDel();
-                    return true;
-                case Tokens.NEW:
-                    at++;
-                    buildNew();
-                    return true;
-                case Tokens.JOIN:
-                    at++;
-                    buildJoin();
-                    return true;
-                case Tokens.SET:
-                    at++;
-                    buildSet();
-                    return true;
-                default:
-                    return false;
-            }
         }
 
         private void buildDel() {
@@ -1527,7 +1519,7 @@ public final class RewriteDesk {
                 buildSum(depth + 1);
                 at++;
             } else {
-                int node = takeNode();
+                int node = cellAt(toldNumber, takeTold(A_NODE));
                 at++;
                 int k = takeIndex();
                 book.addCode(Book.LOOK, 2 * node + k);
@@ -1686,7 +1678,7 @@ public final class RewriteDesk {
         }
 
         boolean hasNode(int node) {
-            return typeOf(node) != NONE;
+            return node >= 0 && node < NODES && cells[node] != NONE;
         }
 
         // A node that is not there has the numbers 0.
@@ -1714,7 +1706,7 @@ public final class RewriteDesk {
         }
 
         boolean hasLink(int link) {
-            return sortOf(link) != NONE;
+            return link >= 0 && link < LINKS && cells[SORTS + link] != NONE;
         }
 
         int nodeCount() {
@@ -2037,7 +2029,11 @@ public final class RewriteDesk {
                 int to = cellAt(rule.linkTo, link);
                 int start = from == Rule.OWN ? own : cellAt(nodes, from);
                 int end = to == Rule.OWN ? own : cellAt(nodes, to);
-                int found = diagram.leastLink(cellAt(rule.linkSort, link), start, end, used);
+                int sort = cellAt(rule.linkSort, link);
+                if ((cellAt(reach, sort * Diagram.NODES + start) >> end & 1) == 0) {
+                    return false;
+                }
+                int found = diagram.leastLink(sort, start, end, used);
                 if (found == NONE) {
                     return false;
                 }
@@ -2204,7 +2200,9 @@ public final class RewriteDesk {
         // What each set tells, and the nodes that were made new.
         private final int[] values = new int[Rule.DOES];
         private final int[] made = new int[Rule.DOES];
+        // The nodes of the matches that were taken for an all.
         private final int[] takenNodes = new int[Diagram.NODES * Rule.NODES];
+        private int takenCount;
 
         Rewriter(Diagram diagram, Matcher matcher, History history) {
             this.diagram = diagram;
@@ -2226,11 +2224,28 @@ public final class RewriteDesk {
             return DONE;
         }
 
-        int applyAll(Book book, int rule) {
-            int many = takeMatches(book, rule);
+        /** Takes each match of a rule that shares no node with one taken ahead of it. */
+        void takeMatches(Book book, int rule) {
+            takenCount = 0;
+            int usedBits = 0;
+            matcher.aim(book, rule);
+            for (int turn = 0; turn < Matcher.TURNS && takenCount < Diagram.NODES && matcher.advance(); turn++) {
+                int bits = matcher.nodeBits();
+                if ((bits & usedBits) == 0) {
+                    usedBits |= bits;
+                    for (int i = 0; i < Rule.NODES; i++) {
+                        setCell(takenNodes, takenCount * Rule.NODES + i, matcher.nodeAt(i));
+                    }
+                    takenCount++;
+                }
+            }
+        }
+
+        /** Applies a rule at the matches that were taken, where they are matches still. */
+        int applyTaken(Book book, int rule) {
             history.open();
             boolean isDone = false;
-            for (int i = 0; i < many; i++) {
+            for (int i = 0; i < takenCount; i++) {
                 if (matcher.isStill(book, rule, takenNodes, i * Rule.NODES)) {
                     if (!carriesOut()) {
                         history.drop();
@@ -2244,24 +2259,6 @@ public final class RewriteDesk {
             }
             history.close();
             return DONE;
-        }
-
-        /** Takes each match that shares no node with one ahead of it; tells how many. */
-        private int takeMatches(Book book, int rule) {
-            int many = 0;
-            int usedBits = 0;
-            matcher.aim(book, rule);
-            for (int turn = 0; turn < Matcher.TURNS && many < Diagram.NODES && matcher.advance(); turn++) {
-                int bits = matcher.nodeBits();
-                if ((bits & usedBits) == 0) {
-                    usedBits |= bits;
-                    for (int i = 0; i < Rule.NODES; i++) {
-                        setCell(takenNodes, many * Rule.NODES + i, matcher.nodeAt(i));
-                    }
-                    many++;
-                }
-            }
-            return many;
         }
 
         /** Does what the rule does at the matcher's match; false, and nothing is done, if it breaks. */
@@ -2415,15 +2412,47 @@ public final class RewriteDesk {
             open(OF_PROC, NONE, book.procStart(proc));
         }
 
-        /** Does the next step, and then all that needs none. */
+        /** Does the next step: it begins a turn, or a do. */
         void step() {
             steps++;
             if (next == NONE) {
                 startTurn();
-            } else {
-                startDo(book.doPart(next, Book.KIND));
+                return;
             }
-            settle();
+            int value = book.doPart(next, Book.VALUE);
+            int row = book.doPart(next, Book.ROW);
+            switch (book.doPart(next, Book.KIND)) {
+                case Tokens.DO:
+                    goBehind(rewriter.applyFirst(book, value));
+                    break;
+                case Tokens.ALL:
+                    rewriter.takeMatches(book, value);
+                    goBehind(rewriter.applyTaken(book, value));
+                    break;
+                case Tokens.ANY:
+                    int outcome = Rewriter.NOTHING;
+                    for (int turn = 0; turn <= Tokens.MOST && row != NONE && outcome == Rewriter.NOTHING; turn++) {
+                        outcome = rewriter.applyFirst(book, book.doPart(row, Book.VALUE));
+                        row = book.doPart(row, Book.NEXT);
+                    }
+                    goBehind(outcome);
+                    break;
+                case Tokens.CALL:
+                    callProc(value);
+                    break;
+                case Tokens.WHILE:
+                    open(OF_WHILE, next, NONE);
+                    break;
+                case Tokens.LOOP:
+                    open(OF_LOOP, next, NONE);
+                    break;
+                case Tokens.TRY:
+                    open(OF_TRY, next, row);
+                    break;
+                default:
+                    failRow();
+                    break;
+            }
         }
 
         /** Closes frames as long as that needs no step. */
@@ -2487,41 +2516,6 @@ public final class RewriteDesk {
             next = book.doPart(innermostDo(), Book.ROW);
         }
 
-        private void startDo(int kind) {
-            int row = book.doPart(next, Book.ROW);
-            switch (kind) {
-                case Tokens.DO:
-                    goBehind(rewriter.applyFirst(book, book.doPart(next, Book.VALUE)));
-                    break;
-                case Tokens.ALL:
-                    goBehind(rewriter.applyAll(book, book.doPart(next, Book.VALUE)));
-                    break;
-                case Tokens.ANY:
-                    int outcome = Rewriter.NOTHING;
-                    for (int turn = 0; turn <= Tokens.MOST && row != NONE && outcome == Rewriter.NOTHING; turn++) {
-                        outcome = rewriter.applyFirst(book, book.doPart(row, Book.VALUE));
-                        row = book.doPart(row, Book.NEXT);
-                    }
-                    goBehind(outcome);
-                    break;
-                case Tokens.CALL:
-                    callProc();
-                    break;
-                case Tokens.WHILE:
-                    open(OF_WHILE, next, NONE);
-                    break;
-                case Tokens.LOOP:
-                    open(OF_LOOP, next, NONE);
-                    break;
-                case Tokens.TRY:
-                    open(OF_TRY, next, row);
-                    break;
-                default:
-                    failRow();
-                    break;
-            }
-        }
-
         private void goBehind(int outcome) {
             if (outcome == Rewriter.BROKEN) {
                 state = BROKEN;
@@ -2532,11 +2526,11 @@ public final class RewriteDesk {
             }
         }
 
-        private void callProc() {
+        private void callProc(int proc) {
             if (openProcs >= MOST_PROCS) {
                 state = BROKEN;
             } else {
-                open(OF_PROC, next, book.procStart(book.doPart(next, Book.VALUE)));
+                open(OF_PROC, next, book.procStart(proc));
             }
         }
 
