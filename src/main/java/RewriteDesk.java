@@ -2463,7 +2463,7 @@ public final class RewriteDesk {
         }
 
         private void open(int kind, int opener, int row) {
-            if (depth >= MOST_FRAMES) {
+            if (depth < 0 || depth >= MOST_FRAMES) {
                 state = BROKEN;
                 return;
             }

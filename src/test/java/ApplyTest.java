@@ -9,9 +9,11 @@ public final class ApplyTest {
         inTheOrderTold(bench);
         setsByTheNumbersThatWere(bench);
         mergedSets(bench);
+        newOnes(bench);
         freeNumbers(bench);
         roomForNodes(bench);
         roomForLinks(bench);
+        roomForEachByItself(bench);
         brokenSums(bench);
         answers(bench);
         undoing(bench);
@@ -60,6 +62,20 @@ public final class ApplyTest {
         bench.due("the one node", desk.nodeOf(0, 1), 1);
     }
 
+    private static void newOnes(Bench bench) {
+        RewriteDesk desk = bench.desk(HEAD + "rule eight " + "new a : a; new b : a; new c : a; new d : a; new e : a; new f : a; new g : a; new h : a; end "
+            + "rule r node x : a; new z : a; new w : b; set w.0 = 4; set z.1 = 3; join w - s -> z; join z - t -> x; end");
+        desk.node(0);
+        bench.due("apply(1)", desk.apply(1), 1);
+        bench.due("the first new one's number", desk.nodeOf(1, 2), 3);
+        bench.due("the second new one's number", desk.nodeOf(2, 1), 4);
+        bench.due("no other number", desk.nodeOf(1, 1) + desk.nodeOf(2, 2) + desk.nodeOf(0, 1) + desk.nodeOf(0, 2), 0);
+        bench.due("the first join", desk.linkOf(0, 1) * 10 + desk.linkOf(0, 2), 21);
+        bench.due("the second join", desk.linkOf(1, 1) * 10 + desk.linkOf(1, 2), 10);
+        bench.due("apply(0)", desk.apply(0), 1);
+        bench.due("count(0)", desk.count(0), 11);
+    }
+
     private static void freeNumbers(Bench bench) {
         RewriteDesk desk = bench.desk(HEAD + "rule r node x : b; set x.0 = 4; del x; new z : a; new w : b; end");
         desk.node(0);
@@ -101,6 +117,26 @@ public final class ApplyTest {
         desk.link(0, 0, 0);
         bench.due("a del ahead of a join", desk.apply(1), 1);
         bench.due("a del behind a join", desk.apply(2), BROKEN);
+        bench.due("count(1)", desk.count(1), 40);
+    }
+
+    private static void roomForEachByItself(Bench bench) {
+        RewriteDesk desk = bench.desk(HEAD + "rule less node x : a; link l : x - s -> x; del l; end "
+            + "rule more node x : a; join x - s -> x; end rule swap node x : b; node y : a; del x; join y - s -> y; end "
+            + "rule grow new z : b; end rule both node x : b; del x; end");
+        for (int i = 0; i < 12; i++) {
+            desk.node(i == 11 ? 1 : 0);
+        }
+        for (int i = 0; i < 40; i++) {
+            desk.link(0, 0, 0);
+        }
+        bench.due("a del of a node makes no room for a link", desk.apply(2), BROKEN);
+        bench.due("a del of a link needs no room", desk.apply(0), 1);
+        bench.due("a new one without room", desk.apply(3), BROKEN);
+        bench.due("a join needs no room for a node", desk.apply(1), 1);
+        bench.due("a del of a node", desk.apply(4), 1);
+        bench.due("a new one needs no room for a link", desk.apply(3), 1);
+        bench.due("count(0)", desk.count(0), 12);
         bench.due("count(1)", desk.count(1), 40);
     }
 

@@ -131,6 +131,10 @@ public final class DiagramTest {
         bench.due("nodeOf(1, -1)", desk.nodeOf(1, -1), NONE);
         bench.due("nodeOf(0, 3)", desk.nodeOf(0, 3), 1);
         bench.due("nodeOf(0, 4)", desk.nodeOf(0, 4), 1);
+        desk.cut(2);
+        bench.due("nodeOf(1, 3) of one less", desk.nodeOf(1, 3), 1);
+        bench.due("nodeOf(1, 4) as before", desk.nodeOf(1, 4), 2);
+        desk.link(1, 1, 0);
         bench.due("linkOf(2, 0)", desk.linkOf(2, 0), 1);
         bench.due("linkOf(2, 1)", desk.linkOf(2, 1), 1);
         bench.due("linkOf(2, 2)", desk.linkOf(2, 2), 0);

@@ -24,7 +24,9 @@ public final class FaultTest {
         namesInRules(bench);
         types(bench);
         order(bench);
+        fullRule(bench);
         whatStays(bench);
+        textAfterText(bench);
         bench.close();
     }
 
@@ -307,11 +309,31 @@ public final class FaultTest {
         bench.marked(TWO + "set @z.2 = 1; end", NAME);
     }
 
+    /** As many names as a rule can have: all are told, and each is known. */
+    private static void fullRule(Bench bench) {
+        String rule = HEAD + "rule r " + many("node ", 4, " : a; ").replace("@", "");
+        StringBuilder links = new StringBuilder();
+        StringBuilder own = new StringBuilder();
+        StringBuilder news = new StringBuilder();
+        for (int i = 0; i < 8; i++) {
+            links.append(i < 6 ? "link l" + i + " : n0 - s -> n3; " : "");
+            own.append(i < 3 ? "link m" + i + " : n0 - s -> n3; " : "");
+            news.append(i < 7 ? "new k" + i + " : a; " : "");
+        }
+        String not = "not node n : a; " + own + "end ";
+        bench.fine(rule + links + not + not + news + "join k6 - s -> n3; end");
+        bench.fine(rule + links + not + not + news + "new k7 : a; end");
+        bench.marked(rule + links + not + not + news + "new @k6 : a; end", TWICE);
+        bench.marked(rule + links + not + "not node n : a; " + own.toString().replace("m2", "@m1") + "end end", TWICE);
+        bench.marked(rule + links + not + "not node n : a; " + own.toString().replace("m2", "@l5") + "end end", TWICE);
+    }
+
     private static void whatStays(Bench bench) {
-        RewriteDesk desk = bench.desk(HEAD + "rule r new z : a; end rule q node x : a; end proc p do r; do r; end");
+        RewriteDesk desk = bench.desk(HEAD + "rule r new z : a; end rule q node x : a; end "
+            + "rule v node x : a; link l : x - s -> x; end proc p do r; do r; end");
         bench.due("count(2)", desk.count(2), 3);
         bench.due("count(3)", desk.count(3), 2);
-        bench.due("count(4)", desk.count(4), 2);
+        bench.due("count(4)", desk.count(4), 3);
         bench.due("count(5)", desk.count(5), 1);
         desk.apply(0);
         desk.keep(2);
@@ -330,6 +352,10 @@ public final class FaultTest {
         bench.due("the match at hand stays", desk.image(0, false), 1);
         bench.due("what is kept stays", desk.same(2), 0);
         bench.due("the run goes on to its end", desk.run(9), 1);
+        bench.due("match(2, 0)", desk.match(2, 0), false);
+        desk.link(0, 0, 0);
+        bench.due("match(2, 0)", desk.match(2, 0), true);
+        bench.due("image(0, true)", desk.image(0, true), 0);
 
         Bench.type(desk, "type z;");
         bench.due("read()", desk.read(), 0);
@@ -340,10 +366,76 @@ public final class FaultTest {
         }
         bench.due("nothing is kept", desk.same(2), RewriteDesk.NONE);
         bench.due("no match is at hand", desk.image(0, false), RewriteDesk.NONE);
+        bench.due("nor a link of it", desk.image(0, true), RewriteDesk.NONE);
         bench.due("undo(1)", desk.undo(1), false);
         bench.due("run(1)", desk.run(1), RewriteDesk.NONE);
         bench.due("node(0)", desk.node(0), 0);
         bench.due("an empty text", desk.read(), 0);
         bench.due("takes all away", desk.count(2) + desk.count(0), 0);
+    }
+
+    /** Nothing of a text is left in those behind it, with and without faults. */
+    private static void textAfterText(Bench bench) {
+        RewriteDesk desk = new RewriteDesk();
+        String full = many("type ", 12, "; ") + many("rule ", 18, " end ").replace("@n17", "@last") + many("proc p", 10, " end ");
+        for (int i = 0; i < 4; i++) {
+            Bench.type(desk, full.replace("@", ""));
+            bench.due("read() of a full text", desk.read(), 0);
+            bench.due("its types", desk.count(2), 12);
+            bench.due("its rules", desk.count(4), 18);
+            bench.due("its procs", desk.count(5), 10);
+            Bench.type(desk, "type a; sort s : a -> a; sort t : a -> b;");
+            bench.due("read() of a fault", desk.read(), NAME);
+        }
+        longSums(bench);
+        longRows(bench);
+        desk = new RewriteDesk();
+        String head = "type a; sort s : a -> a; rule r node x : a; ";
+        String rich = head + "node y : a; merge; link l : x - s -> y; not node n : a; link k : n - s -> n; end if 1 < x.0; new z : a; del l; del x; end";
+        for (int i = 0; i < 4; i++) {
+            Bench.type(desk, rich);
+            desk.read();
+            desk.node(0);
+            bench.due("matches(0) of the rich rule", desk.matches(0), 0);
+            Bench.type(desk, head + "end proc p do r; end");
+            desk.read();
+            desk.node(0);
+            desk.link(0, 0, 0);
+            bench.due("matches(0) of the poor rule", desk.matches(0), 1);
+            bench.due("apply(0)", desk.apply(0), 1);
+            bench.due("does nothing", desk.count(0) * 10 + desk.count(1), 11);
+            Bench.type(desk, head + "node y : a; link m : y - s -> x; end");
+            desk.read();
+            desk.node(0);
+            desk.link(0, 0, 0);
+            bench.due("matches(0) without merge", desk.matches(0), 0);
+            bench.due("count(5)", desk.count(5), 0);
+            Bench.type(desk, head + "not node n : a; end end");
+            desk.read();
+            desk.node(0);
+            bench.due("matches(0) of a not without links", desk.matches(0), 0);
+        }
+    }
+
+    private static void longSums(Bench bench) {
+        RewriteDesk desk = new RewriteDesk();
+        for (int i = 0; i < 4; i++) {
+            Bench.type(desk, "type a; rule r node x : a; set x.0 = x.0" + "+1".repeat(580) + "; end");
+            bench.due("read() of a long sum", desk.read(), 0);
+            desk.node(0);
+            desk.apply(0);
+            bench.due("all of it counts", desk.nodeOf(0, 1), 580);
+        }
+    }
+
+    private static void longRows(Bench bench) {
+        RewriteDesk desk = new RewriteDesk();
+        for (int i = 0; i < 6; i++) {
+            Bench.type(desk, "rule n if 1<0; end rule g end proc p any n" + ",n".repeat(580) + ",g; end");
+            bench.due("read() of a long row", desk.read(), 0);
+            desk.begin(0);
+            bench.due("the last of it counts", desk.run(1), 1);
+            bench.due("count(6)", desk.count(6), 1);
+        }
     }
 }

@@ -14,6 +14,7 @@ public final class MatchTest {
         notsWithoutNodes(bench);
         tests(bench);
         breaks(bench);
+        allOfARule(bench);
         loose(bench);
         mergedAndDeleted(bench);
         wrongInputs(bench);
@@ -204,6 +205,38 @@ public final class MatchTest {
         holds(bench, "999999999 * 3 != 0", 0, 0, false);
     }
 
+    /** As much as a rule can have: the last of each kind counts too. */
+    private static void allOfARule(Bench bench) {
+        StringBuilder full = new StringBuilder("node x : a; node y : a; node z : a; node w : a; ");
+        String[] ways = {"x - s -> y", "y - s -> z", "z - s -> w", "w - s -> x", "x - t -> z", "y - t -> w"};
+        for (int i = 0; i < ways.length; i++) {
+            full.append("link l").append(i).append(" : ").append(ways[i]).append("; ");
+        }
+        String not = "not node n : b; link i : x - s -> n; link j : x - s -> n; link k : n - t -> w; end ";
+        full.append(not).append(not.replace("x - s", "w - s"));
+        full.append("if x.0 == 0; if y.0 == 1; if z.0 == 2; if w.0 == 3; ");
+        RewriteDesk desk = desk(bench, full.toString(), 0, 0, 0, 0, 1);
+        for (int i = 0; i < 4; i++) {
+            desk.attribute(i, 0, i);
+        }
+        int[] from = {0, 1, 2, 3, 0, 1};
+        int[] to = {1, 2, 3, 0, 2, 3};
+        for (int i = 0; i < 6; i++) {
+            due(bench, desk);
+            desk.link(i / 4, from[i], to[i]);
+        }
+        due(bench, desk, "0123");
+        desk.link(0, 3, 4);
+        desk.link(1, 4, 3);
+        due(bench, desk, "0123");
+        desk.link(0, 3, 4);
+        due(bench, desk);
+        desk.cut(8);
+        due(bench, desk, "0123");
+        desk.attribute(3, 0, 4);
+        due(bench, desk);
+    }
+
     private static void loose(Bench bench) {
         RewriteDesk desk = desk(bench, "node x : a; node y : a; link l : x - s -> y; del l; del y;", 0, 0, 0);
         desk.link(0, 0, 1);
@@ -221,6 +254,13 @@ public final class MatchTest {
         desk.cut(2);
         desk.link(0, 0, 1);
         due(bench, desk);
+
+        RewriteDesk lone = desk(bench, "node x : a; del x;", 0, 0, 0);
+        lone.link(0, 0, 1);
+        due(bench, lone, "2");
+        RewriteDesk own = desk(bench, "node x : a; link l : x - s -> x; del l; del x;", 0, 0);
+        own.link(0, 1, 1);
+        due(bench, own, "1");
     }
 
     private static void mergedAndDeleted(Bench bench) {

@@ -122,6 +122,23 @@ public final class RunTest {
         bench.due("and is kept", desk.count(6), 1);
         bench.due("undo(1)", desk.undo(1), true);
         bench.due("the number", desk.nodeOf(0, 1), 0);
+
+        // What a try and a while take back is not taken back once more.
+        RewriteDesk twice = desk(bench, "proc p try do grow; fail; then else do grow; end while do grow; fail; end do grow; fail; end");
+        for (int i = 0; i < 5; i++) {
+            twice.apply(1);
+        }
+        twice.undo(1);
+        twice.begin(0);
+        bench.due("run(8)", twice.run(8), 0);
+        bench.due("count(6)", twice.count(6), 5);
+        bench.due("run(1)", twice.run(1), 0);
+        bench.due("count(6)", twice.count(6), 6);
+        bench.due("run(1)", twice.run(1), FAILED);
+        bench.due("count(6)", twice.count(6), 4);
+        bench.due("count(0)", twice.count(0), 5);
+        bench.due("undo(4)", twice.undo(4), true);
+        bench.due("count(0)", twice.count(0), 1);
     }
 
     private static void anys(Bench bench) {
@@ -189,6 +206,9 @@ public final class RunTest {
     private static void tooManyProcs(Bench bench) {
         due(bench, "proc p do up; call q; end proc q call q; end", BROKEN, 1 + 20, 1, 1);
         due(bench, "proc p call p; end", BROKEN, 20, 1, 0);
+        due(bench, "proc p loop 25 call q; end end proc q end", SUCCEEDED, 1 + 25 * 2, 1, 0);
+        due(bench, "proc p while end loop 0 end try then else end call p; end", BROKEN, 20 * 5, 1, 0);
+        due(bench, "proc p loop 25 try call q; then else end end end proc q fail; end", SUCCEEDED, 1 + 25 * 4, 1, 0);
         // Twenty may be open: this one's calls end at the 20th, which fails, and is caught at the first.
         due(bench, "proc p try call q; then else do grow; end end proc q try do up; then call q; else fail; end end",
             SUCCEEDED, 2 + 3 * 3 + 3 + 1, 2, 1);

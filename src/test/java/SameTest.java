@@ -13,6 +13,8 @@ public final class SameTest {
         linksThatDiffer(bench);
         manyLinks(bench);
         shapes(bench);
+        linksToItself(bench);
+        behindAnother(bench);
         tooMany(bench);
         whatStays(bench);
         bench.close();
@@ -162,6 +164,38 @@ public final class SameTest {
         cutAll(desk);
         links(desk, "01122034455663");
         bench.due("two rings", desk.same(0), 0);
+    }
+
+    private static void linksToItself(Bench bench) {
+        RewriteDesk desk = desk(bench, 2);
+        links(desk, "0000");
+        desk.keep(0);
+        cutAll(desk);
+        links(desk, "0011");
+        bench.due("one at each", desk.same(0), 0);
+        cutAll(desk);
+        links(desk, "1111");
+        bench.due("both at the other", desk.same(0), 1);
+    }
+
+    /** What a larger diagram left behind does not count. */
+    private static void behindAnother(Bench bench) {
+        RewriteDesk desk = desk(bench, 7);
+        links(desk, "01122334455660");
+        desk.keep(0);
+        bench.due("the larger one", desk.same(0), 1);
+        cutAll(desk);
+        for (int node = 2; node < 7; node++) {
+            desk.remove(node);
+        }
+        desk.attribute(0, 0, 1);
+        desk.keep(1);
+        bench.due("the smaller one", desk.same(1), 1);
+        desk.attribute(0, 0, 2);
+        bench.due("another number", desk.same(1), 0);
+        desk.attribute(0, 0, 0);
+        desk.attribute(1, 0, 1);
+        bench.due("the number at the other", desk.same(1), 1);
     }
 
     private static void tooMany(Bench bench) {
