@@ -390,8 +390,9 @@ public final class FaultTest {
         longSums(bench);
         longRows(bench);
         desk = new RewriteDesk();
-        String head = "type a; sort s : a -> a; rule r node x : a; ";
-        String rich = head + "node y : a; merge; link l : x - s -> y; not node n : a; link k : n - s -> n; end if 1 < x.0; new z : a; del l; del x; end";
+        // Five texts, an odd number: a text finds in its place first one of them, then another.
+        String head = "type a; type b; sort s : a -> a; rule r node x : a; ";
+        String rich = head + "node y : a; merge; link l : x - s -> y; not node n : b; link k : n - s -> n; end if 1 < x.0; new z : a; del l; del x; end";
         for (int i = 0; i < 4; i++) {
             Bench.type(desk, rich);
             desk.read();
@@ -414,6 +415,12 @@ public final class FaultTest {
             desk.read();
             desk.node(0);
             bench.due("matches(0) of a not without links", desk.matches(0), 0);
+            Bench.type(desk, head + "not link k : x - s -> x; end end");
+            desk.read();
+            desk.node(0);
+            bench.due("matches(0) of a not without a node", desk.matches(0), 1);
+            desk.link(0, 0, 0);
+            bench.due("matches(0) of a not without a node", desk.matches(0), 0);
         }
     }
 

@@ -205,7 +205,11 @@ public final class RunTest {
 
     private static void tooManyProcs(Bench bench) {
         due(bench, "proc p do up; call q; end proc q call q; end", BROKEN, 1 + 20, 1, 1);
-        due(bench, "proc p call p; end", BROKEN, 20, 1, 0);
+        RewriteDesk again = due(bench, "proc p call p; end", BROKEN, 20, 1, 0);
+        again.begin(0);
+        bench.due("run(19) once more", again.run(19), 0);
+        bench.due("count(10)", again.count(10), 20);
+        bench.due("run(1)", again.run(1), BROKEN);
         due(bench, "proc p loop 25 call q; end end proc q end", SUCCEEDED, 1 + 25 * 2, 1, 0);
         due(bench, "proc p while end loop 0 end try then else end call p; end", BROKEN, 20 * 5, 1, 0);
         due(bench, "proc p loop 25 try call q; then else end end end proc q fail; end", SUCCEEDED, 1 + 25 * 4, 1, 0);
