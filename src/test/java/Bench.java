@@ -32,9 +32,14 @@ final class Bench {
     static void type(RewriteDesk desk, String text) {
         int filled = (text.length() + 19) / 20 * 20;
         for (int at = 0; at < filled; at += 20) {
-            desk.feed(word(text, at), word(text, at + 4), word(text, at + 8), word(text, at + 12), word(text, at + 16));
+            feed(desk, text.substring(at, Math.min(at + 20, text.length())));
         }
         desk.back(filled - text.length());
+    }
+
+    /** Feeds a row of twenty bytes, blanks behind what is told. */
+    static int feed(RewriteDesk desk, String row) {
+        return desk.feed(word(row, 0), word(row, 4), word(row, 8), word(row, 12), word(row, 16));
     }
 
     private static int word(String text, int at) {

@@ -6,7 +6,9 @@ public final class TapeTest {
         Bench bench = new Bench("TapeTest");
         aNewObject(bench);
         feeding(bench);
+        twentyBytes(bench);
         takingBack(bench);
+        emptyThen(bench);
         bench.close();
     }
 
@@ -59,6 +61,41 @@ public final class TapeTest {
         bench.due("place() of a byte 0", desk.place(), 19);
     }
 
+    /** "Twenty bytes, the highest of a first": a byte that is no token, in each place, alone and with its sign bit. */
+    private static void twentyBytes(Bench bench) {
+        for (int i = 0; i < 20; i++) {
+            for (int b : new int[] {'?', 128, 255}) {
+                int[] words = {0x20202020, 0x20202020, 0x20202020, 0x20202020, 0x20202020};
+                int shift = 24 - 8 * (i % 4);
+                words[i / 4] = words[i / 4] & ~(255 << shift) | b << shift;
+                RewriteDesk desk = new RewriteDesk();
+                Bench.type(desk, "type a;");
+                bench.due("feed", desk.feed(words[0], words[1], words[2], words[3], words[4]), 27);
+                bench.due("read()", desk.read(), 1);
+                bench.due("place() of byte " + i, desk.place(), 7 + i);
+            }
+        }
+    }
+
+    /** "The tape, which is empty then": with a fault and without; what comes behind it begins a new text. */
+    private static void emptyThen(Bench bench) {
+        RewriteDesk desk = new RewriteDesk();
+        String[] texts = {"type a; type b;", "type", "type a; type a;", "", "type c;", "?", " "};
+        int[] faults = {0, 1, 3, 0, 0, 1, 0};
+        int[] places = {NONE, 4, 13, NONE, NONE, 0, NONE};
+        int[] types = {2, 2, 2, 0, 1, 1, 0};
+        for (int i = 0; i < texts.length; i++) {
+            Bench.type(desk, texts[i]);
+            bench.due("place() is the latest read()'s", desk.place(), i == 0 ? NONE : places[i - 1]);
+            bench.due("count(9) of " + texts[i], desk.count(9), texts[i].length());
+            bench.due("read() of " + texts[i], desk.read(), faults[i]);
+            bench.due("place() of " + texts[i], desk.place(), places[i]);
+            bench.due("count(9) behind " + texts[i], desk.count(9), 0);
+            bench.due("back(1) behind " + texts[i], desk.back(1), NONE);
+            bench.due("count(2) behind " + texts[i], desk.count(2), types[i]);
+        }
+    }
+
     private static void takingBack(Bench bench) {
         RewriteDesk desk = new RewriteDesk();
         bench.due("back(0) of an empty tape", desk.back(0), 0);
@@ -73,6 +110,15 @@ public final class TapeTest {
         bench.due("read()", desk.read(), 0);
         bench.due("two types are left", desk.count(2), 2);
         Bench.type(desk, "type a;");
+        bench.due("back of one more than all", desk.back(8), NONE);
+        bench.due("back(most)", desk.back(Integer.MAX_VALUE), NONE);
         bench.due("back of all", desk.back(7), 0);
+        bench.due("back(0) of an empty tape", desk.back(0), 0);
+        for (int i = 0; i < 200; i++) {
+            Bench.feed(desk, "");
+        }
+        bench.due("back(4001) of a full tape", desk.back(4001), NONE);
+        bench.due("back(4000) of a full tape", desk.back(4000), 0);
+        bench.due("feed of an empty tape", Bench.feed(desk, "type a;"), 20);
     }
 }
