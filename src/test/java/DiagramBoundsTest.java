@@ -27,6 +27,7 @@ public final class DiagramBoundsTest {
         numbersCompared(bench);
         twelveSorts(bench);
         manyOfOneSort(bench);
+        withGaps(bench);
         againstAllOrders(bench);
         bench.close();
     }
@@ -444,6 +445,63 @@ public final class DiagramBoundsTest {
             desk.attribute(1, 0, 1);
             bench.due(many + " with their nodes turned round", desk.same(0), 1);
         }
+    }
+
+    /** A diagram whose nodes are just those of these numbers, in order, each with one NUMBER of its own. */
+    private static void just(RewriteDesk desk, String nodes, int... numbers) {
+        for (int i = 0; i < LINKS; i++) {
+            desk.cut(i);
+        }
+        while (desk.node(0) != NONE) {
+            // All twelve are there then, and those too many go.
+        }
+        for (int k = 0, i = 0; k < NODES; k++) {
+            if (nodes.indexOf("0123456789xy".charAt(k)) < 0) {
+                desk.remove(k);
+            } else {
+                desk.attribute(k, 0, numbers[i]);
+                desk.attribute(k, 1, 0);
+                i++;
+            }
+        }
+    }
+
+    /** "but for the numbers of NODES and LINKS": nodes of any numbers, with gaps, one behind the other. */
+    private static void withGaps(Bench bench) {
+        RewriteDesk desk = desk(bench, 0);
+        just(desk, "015", 1, 1, 2);
+        desk.keep(0);
+        bench.due("0, 1, 5", desk.same(0), 1);
+        just(desk, "05", 1, 2);
+        desk.keep(1);
+        bench.due("0, 5", desk.same(1), 1);
+        just(desk, "01", 2, 2);
+        bench.due("0, 1 of one number", desk.same(1), 0);
+        just(desk, "01", 2, 1);
+        bench.due("0, 1 in another order", desk.same(1), 1);
+        just(desk, "xy", 1, 2);
+        bench.due("10, 11", desk.same(1), 1);
+        desk.attribute(11, 0, 3);
+        bench.due("10, 11 of another number", desk.same(1), 0);
+        desk = desk(bench, 0);
+        just(desk, "56789xy", 1, 2, 3, 4, 5, 6, 7);
+        desk.link(0, 5, 11);
+        desk.keep(0);
+        bench.due("5 to 11", desk.same(0), 1);
+        just(desk, "0123456", 7, 6, 5, 4, 3, 2, 1);
+        bench.due("0 to 6 without the link", desk.same(0), 0);
+        desk.link(0, 0, 6);
+        bench.due("0 to 6 with the link turned round", desk.same(0), 0);
+        desk.cut(0);
+        desk.link(1, 0, 0);
+        desk.link(0, 6, 0);
+        desk.cut(0);
+        bench.due("0 to 6 with the link", desk.same(0), 1);
+        just(desk, "02468xy", 1, 2, 3, 4, 5, 6, 8);
+        desk.link(0, 0, 11);
+        bench.due("0, 2, 4, 6, 8, 10, 11 of another number", desk.same(0), 0);
+        desk.attribute(11, 0, 7);
+        bench.due("0, 2, 4, 6, 8, 10, 11", desk.same(0), 1);
     }
 
     /** Diagrams of up to four nodes, told one by one from all orders of the other's nodes. */

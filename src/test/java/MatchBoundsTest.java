@@ -13,6 +13,7 @@ public final class MatchBoundsTest {
         typesOfNodes(bench);
         twoLinksTwoLinks(bench);
         leastNumbers(bench);
+        linksOfOthers(bench);
         notWithoutNode(bench);
         notWithNode(bench);
         notLinks(bench);
@@ -33,6 +34,7 @@ public final class MatchBoundsTest {
         roomAsTheyCome(bench);
         nothingElse(bench);
         allSixLinks(bench);
+        fullRule(bench);
         bench.close();
     }
 
@@ -169,6 +171,38 @@ public final class MatchBoundsTest {
         }
         desk.cut(38);
         bench.due("a link too few", desk.matches(0), 0);
+    }
+
+    /** "a LINK of its SORT between their NODES": the second of two may not be of another sort, from or to another node. */
+    private static void linksOfOthers(Bench bench) {
+        String text = "type a; type b of a; type c of a; sort s : a -> a; sort t : a -> a; sort u : a -> a; "
+            + "rule r node x : b; node y : c; link l : x - t -> y; link m : x - t -> y; end "
+            + "rule q node x : b; node y : c; not link l : x - t -> y; link m : x - t -> y; end end";
+        RewriteDesk desk = bench.desk(text);
+        for (int type : new int[] {0, 0, 1, 2, 0}) {
+            desk.node(type);
+        }
+        desk.link(1, 2, 3);
+        int[][] others = {{0, 2, 3}, {2, 2, 3}, {1, 1, 3}, {1, 4, 3}, {1, 3, 3}, {1, 2, 1}, {1, 2, 4}, {1, 2, 2}, {1, 3, 2}};
+        for (int turn = 0; turn < 2; turn++) {
+            for (int[] one : others) {
+                int link = desk.link(one[0], one[1], one[2]);
+                String what = "a link of sort " + one[0] + " from " + one[1] + " to " + one[2];
+                bench.due(what, desk.matches(0), turn);
+                bench.due("in a NOT " + what, desk.matches(1), 1 - turn);
+                if (turn == 0) {
+                    desk.cut(link);
+                }
+            }
+            desk.link(1, 2, 3);
+        }
+        // Now all of these are there, and ahead of some of them the right ones go.
+        bench.due("all others", desk.matches(0), 1);
+        desk.cut(0);
+        bench.due("two of three are left", desk.matches(0), 1);
+        desk.cut(1);
+        bench.due("one of three is left", desk.matches(0), 0);
+        bench.due("a NOT of two", desk.matches(1), 1);
     }
 
     /** "for no NOT its node (if it has one) can be given": a NOT of nothing at all always can. */
@@ -656,5 +690,33 @@ public final class MatchBoundsTest {
             }
             bench.due("links in all", desk.count(1), 9);
         }
+    }
+
+    /** Four tests, of two sums each, and eight sets: none stands in another's place. */
+    private static void fullRule(Bench bench) {
+        StringBuilder rule = new StringBuilder();
+        StringBuilder sets = new StringBuilder();
+        for (int i = 0; i < 4; i++) {
+            rule.append("node x").append(i).append(" : a; ");
+            for (int k = 0; k < 2; k++) {
+                sets.append("set x").append(i).append('.').append(k).append(" = x").append(3 - i).append('.').append(1 - k)
+                    .append(" + ").append(100 * i + k).append("; ");
+            }
+        }
+        for (int i = 0; i < 4; i++) {
+            rule.append("if x").append(i).append(".0 + ").append(i).append(" == ").append(11 * i).append(" - x").append(i).append(".1; ");
+        }
+        RewriteDesk desk = desk(bench, rule.toString() + sets, 4);
+        for (int i = 0; i < 4; i++) {
+            desk.attribute(i, 0, 4 * i);
+            desk.attribute(i, 1, 6 * i);
+        }
+        due(bench, "each node's own test", desk, 1);
+        bench.due("apply(0)", desk.apply(0), 1);
+        for (int i = 0; i < 4; i++) {
+            bench.due("x" + i + ".0", desk.nodeOf(i, 1), 6 * (3 - i) + 100 * i);
+            bench.due("x" + i + ".1", desk.nodeOf(i, 2), 4 * (3 - i) + 100 * i + 1);
+        }
+        due(bench, "none holds now", desk, 0);
     }
 }

@@ -40,6 +40,7 @@ public final class RunBoundsTest {
         pushedOutByARun(bench);
         begunAgain(bench);
         takenByAll(bench);
+        allOfOneToFour(bench);
         allOfNoNodes(bench);
         allOfTheDiagramAsItIs(bench);
         stillAMatch(bench);
@@ -497,6 +498,31 @@ public final class RunBoundsTest {
             bench.due("it is one application", desk.count(6), nodes > 1 ? 1 : 0);
             bench.due("undo(1)", desk.undo(1), nodes > 1);
             bench.due("takes all of it back", desk.nodeOf(0, 2) + desk.nodeOf(1, 2), 0);
+        }
+    }
+
+    /** The same of rules with one to four nodes, in 1 to 12 of them: as many as fit are taken, each is applied. */
+    private static void allOfOneToFour(Bench bench) {
+        for (int width = 1; width <= 4; width++) {
+            StringBuilder text = new StringBuilder("type a; rule r ");
+            for (int i = 0; i < width; i++) {
+                text.append("node x").append(i).append(" : a; ");
+            }
+            for (int i = 0; i < width; i++) {
+                text.append("set x").append(i).append(".0 = ").append(i + 1).append("; ");
+            }
+            for (int nodes = 1; nodes <= 12; nodes++) {
+                RewriteDesk desk = bench.desk(text + "end proc p all r; end");
+                for (int i = 0; i < nodes; i++) {
+                    desk.node(0);
+                }
+                int taken = nodes / width;
+                bench.due("all of " + width + " in " + nodes, end(desk, 0), taken > 0 ? SUCCEEDED : FAILED);
+                for (int i = 0; i < nodes; i++) {
+                    bench.due("node " + i + " by " + width + " in " + nodes, desk.nodeOf(i, 1), i < taken * width ? i % width + 1 : 0);
+                }
+                bench.due("applications", desk.count(6), taken > 0 ? 1 : 0);
+            }
         }
     }
 

@@ -35,6 +35,7 @@ public final class TextBoundsTest {
         heldNodes(bench);
         ints(bench);
         numbersAsTold(bench);
+        insteadOfAll(bench);
         bench.close();
     }
 
@@ -176,6 +177,17 @@ public final class TextBoundsTest {
         bench.marked("type a; sort s : a @<- a;", SYNTAX);
         bench.marked("type a; sort s : a @--> a;", SYNTAX);
         bench.fine("type a; sort s:a->a; rule r node x:a;link l:x-s->x;del l;join x-s->x;end");
+        // A '=' or a '>' makes one sign with these alone.
+        for (char sign : ":;.,+-*()".toCharArray()) {
+            boolean isBetween = "+-*".indexOf(sign) >= 0;
+            String ahead = isBetween ? "x.0 " + sign + "@" : "x.0 @" + sign;
+            bench.marked(test + ahead + "= 1; end", SYNTAX);
+            bench.marked(test + ahead + "== 1; end", SYNTAX);
+        }
+        for (char sign : ":;.,=<+*()".toCharArray()) {
+            bench.marked("type a; sort s : a @" + sign + "> a;", SYNTAX);
+            bench.marked("type a; sort s : a @" + sign + "-> a;", SYNTAX);
+        }
         // "->" is one sign, where two would do as well: a '-' and a '>'.
         bench.marked("type a; sort s:a->a; rule r node x:a; link l:x@->s->x; end", SYNTAX);
     }
@@ -507,6 +519,8 @@ public final class TextBoundsTest {
         // Neither a NOT's links nor a set hold a node.
         bench.fine(rule + "not link m : z - s -> x; end set z.0 = 1; del z; end");
         bench.fine(HEAD + "rule q node z : a; join z - s -> z; end rule r node z : a; del z; end");
+        bench.fine(rule + "end rule q node x : a; node y : a; del x; del y; end");
+        bench.fine(rule + "node w : a; end rule q node x : a; node y : a; node z : a; del x; del y; del z; end");
     }
 
     /** "at an INT: not 0, 1 behind a '.', above 100 behind loop". */
@@ -557,5 +571,50 @@ public final class TextBoundsTest {
         bench.due("node(3)", desk.node(3), RewriteDesk.NONE);
         bench.due("link(1, 0, 1) to another type", desk.link(1, 0, 1), RewriteDesk.NONE);
         bench.due("link(2, 0, 0)", desk.link(2, 0, 0), RewriteDesk.NONE);
+    }
+
+    /** "are there instead of all": of a text with much of each nothing is left in one with little. */
+    private static void insteadOfAll(Bench bench) {
+        String many = all("type t", 12, "; ") + all("sort s", 12, " : tn0 -> tn0; ") + all("proc p", 10, " do rn0; end ")
+            + all("rule r", 19, " end ") + "rule last node x : tn0; node y : tn0; link l : x - sn0 -> y; end ";
+        String much = "type a; sort s : a -> a; rule r node x : a; node y : a; " + all("new k", 8, " : a; ") + "end "
+            + "rule q node x : a; node y : a; merge; " + all("link l", 6, " : x - s -> y; ") + "end proc p do r; do q; fail; end ";
+        String little = "type b; sort t : b -> b; rule r new n : b; end rule q node x : b; join x - t -> x; end proc p do r; end ";
+        // Right behind a larger one, and behind one ahead of that: a desk may hold more than one.
+        String[][] rows = {{many, much, little, little}, {many, little, much, much, little}};
+        for (String[] row : rows) {
+            RewriteDesk desk = new RewriteDesk();
+            for (String text : row) {
+                Bench.type(desk, text);
+                bench.due("read() of " + text, desk.read(), 0);
+                if (text.equals(little)) {
+                    little(bench, desk);
+                }
+            }
+        }
+    }
+
+    private static void little(Bench bench, RewriteDesk desk) {
+        for (int k : new int[] {1, 2, 11, 12}) {
+            bench.due("node(" + k + ")", desk.node(k), RewriteDesk.NONE);
+            bench.due("matches(" + (k + 1) + ")", desk.matches(k + 1), RewriteDesk.NONE);
+            bench.due("begin(" + k + ")", desk.begin(k), false);
+        }
+        for (int i = 0; i < 12; i++) {
+            bench.due("node " + i + " by a rule", desk.apply(0), 1);
+        }
+        bench.due("a 13th node", desk.apply(0), -3);
+        for (int k : new int[] {1, 2, 11, 12}) {
+            bench.due("link(" + k + ", 0, 0)", desk.link(k, 0, 0), RewriteDesk.NONE);
+        }
+        for (int i = 0; i < 39; i++) {
+            desk.link(0, 0, 0);
+        }
+        bench.due("a 40th link by a rule", desk.apply(1), 1);
+        bench.due("a 41st link", desk.apply(1), -3);
+        bench.due("remove(11)", desk.remove(11), true);
+        bench.due("begin(0)", desk.begin(0), true);
+        bench.due("one step", desk.run(1), 1);
+        bench.due("twelve nodes", desk.count(0), 12);
     }
 }
